@@ -288,9 +288,10 @@ public final class DeepWearer {
         }
         int found = OUT;
         int fewest = WEARERS_MOST + 1;
+        // Who is GONE has an ARM of 0, so no set with one of them is of the fewest.
         for (int set = 0; set < 1 << now.wearers; set++) {
             int size = Integer.bitCount(set);
-            if (size < fewest && now.isNobodyGoneIn(set) && now.armsOf(set) >= now.low[thing]) {
+            if (size < fewest && now.armsOf(set) >= now.low[thing]) {
                 found = set;
                 fewest = size;
             }
@@ -884,15 +885,6 @@ public final class DeepWearer {
 
         private int armsOfAll() {
             return armsOf(-1);
-        }
-
-        private boolean isNobodyGoneIn(int set) {
-            for (int w = 0; w < wearers; w++) {
-                if ((set >> w & 1) == 1 && gone[w]) {
-                    return false;
-                }
-            }
-            return true;
         }
 
         /** What a town's tests ask of a wearer and a thing, by the number of the letter. */

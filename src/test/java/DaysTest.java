@@ -7,6 +7,7 @@ public final class DaysTest {
         lowByHowAllIsAhead();
         on();
         when();
+        whenByTheRow();
         whenGone();
         Due.end();
     }
@@ -160,6 +161,24 @@ public final class DaysTest {
         Due.is("one OUT is not LOST", x.when(0, 0), -5);
         Due.is("one OUT is not SUNK", x.when(0, 1), -5);
         Due.is("one OUT, no what", x.when(0, 2), DeepWearer.NONE);
+    }
+
+    private static void whenByTheRow() {
+        DeepWearer x = new DeepWearer();
+        x.wearer(6, 0, 16);
+        x.wearer(0, 0, 99);
+        x.thing(0, 0);
+        x.thing(1, 1);
+        x.row(0, 1, 6);
+        x.row(0, 2, 5);
+        // From DAY 1 on: 6, 11, 11, 11, 16.
+        x.pass(1);
+        Due.is("LOST by the ROW", x.when(0, 0), 2);
+        Due.is("SUNK by the ROW", x.when(0, 1), 5);
+        // 1 already: 10 behind 9 is within 10.
+        Due.is("LOST at 11", x.when(1, 0), 10);
+        x.think(1, 11);
+        Due.is("SUNK at 11", x.when(1, 1), 10);
     }
 
     private static void whenGone() {

@@ -15,6 +15,7 @@ public final class WearersTest {
         feed();
         town();
         townClauses();
+        townBehindAFault();
         townFaults();
         townTests();
         told();
@@ -320,6 +321,21 @@ public final class WearersTest {
         }
         Due.is("a long one", Due.town(x, most.toString()), 3);
         Due.is("PULL", x.of(0, 10), 100);
+    }
+
+    private static void townBehindAFault() {
+        DeepWearer x = new DeepWearer();
+        x.wearer(0, 0, 50);
+        x.thing(1, 0);
+        Due.is("a fault at the end", Due.town(x, "reach 1;tide 2;lift 3;sink 4 p=0;sink 5 (p=0"), -10 - 44);
+        Due.is("none holds", x.told(1), 10);
+        Due.is("none holds", x.of(0, 10), 1);
+        Due.is("no town", x.count(2), 0);
+        Due.is("a town", Due.town(x, "float 1 p=1"), 0);
+        Due.is("nothing is left of the fault: REACH", x.told(1), 10);
+        Due.is("nothing is left of the fault: TIDE", x.told(2), 0);
+        Due.is("nothing is left of the fault: LIFT", x.told(3), 5);
+        Due.is("nothing is left of the fault: PULL", x.of(0, 10), 1);
     }
 
     private static void fault(String text, int place) {
