@@ -12,6 +12,7 @@ import java.util.List;
 import java.util.Set;
 import java.util.regex.Matcher;
 import java.util.regex.Pattern;
+import java.util.stream.Stream;
 
 /** The public face as the document gives it, and what can be looked at of LANGUAGE.md's rules. */
 public final class FaceTest {
@@ -28,10 +29,21 @@ public final class FaceTest {
         "int shift(int,int,int,int,int)",
     };
 
+    // Of what LANGUAGE.md's rule 4 leaves, that which a class without lists may need.
+    private static final Set<String> LIBRARY = Set.of(
+        "java.lang.Object.<init>", "java.lang.String.length", "java.lang.String.charAt", "java.lang.String.isEmpty",
+        "java.lang.String.equals", "java.lang.String.indexOf", "java.lang.String.substring",
+        "java.lang.Math.max", "java.lang.Math.min", "java.lang.Math.abs", "java.lang.Math.floorMod",
+        "java.lang.Math.floorDiv", "java.lang.Integer.bitCount", "java.lang.Integer.compare",
+        "java.lang.System.arraycopy", "java.util.Arrays.copyOf", "java.util.Arrays.copyOfRange",
+        "java.util.Arrays.fill");
+
     public static void main(String[] args) throws IOException {
         constants();
         methods();
         classesInside();
+        fields();
+        library();
         source(Files.readString(Path.of("src/main/java/DeepWearer.java")));
         Due.end();
     }
@@ -83,8 +95,7 @@ public final class FaceTest {
         for (String call : FACE) {
             faceNames.add(call.substring(call.indexOf(' ') + 1, call.indexOf('(')));
         }
-        List<Class<?>> classes = new ArrayList<>(Arrays.asList(DeepWearer.class.getDeclaredClasses()));
-        classes.add(DeepWearer.class);
+        List<Class<?>> classes = classes();
         Due.holds("some twelve classes", classes.size() <= 12);
         for (Class<?> c : classes) {
             Due.holds(c + " is static", c == DeepWearer.class || Modifier.isStatic(c.getModifiers()));
@@ -100,6 +111,45 @@ public final class FaceTest {
                 Due.holds(m + " takes at most seven", m.getParameterCount() <= 7);
                 Due.holds(m + " bears no public one's name",
                     Modifier.isPublic(m.getModifiers()) || !faceNames.contains(m.getName()));
+            }
+        }
+    }
+
+    private static List<Class<?>> classes() {
+        List<Class<?>> classes = new ArrayList<>(Arrays.asList(DeepWearer.class.getDeclaredClasses()));
+        classes.add(DeepWearer.class);
+        return classes;
+    }
+
+    private static void fields() {
+        Set<Class<?>> statics = Set.of(int.class, long.class, boolean.class, char.class, String.class,
+            int[].class, long[].class, char[].class, byte[].class);
+        for (Class<?> c : classes()) {
+            for (Field f : c.getDeclaredFields()) {
+                Class<?> type = f.getType();
+                Class<?> item = type.isArray() ? type.getComponentType() : type;
+                Due.holds(f + " is of a static field's types",
+                    !Modifier.isStatic(f.getModifiers()) || statics.contains(type));
+                Due.holds(f + " is of numbers, texts, own classes or rows of them",
+                    item.isPrimitive() || item == String.class || item == StringBuilder.class || classes().contains(item));
+            }
+        }
+    }
+
+    /** What of the library the compiled classes name, and that javac made no class beside those that are written. */
+    private static void library() throws IOException {
+        Path made = Path.of(System.getProperty("java.class.path"));
+        List<Path> files = new ArrayList<>();
+        try (Stream<Path> all = Files.list(made)) {
+            all.filter(f -> f.getFileName().toString().matches("DeepWearer(\\$.*)?\\.class")).forEach(files::add);
+        }
+        Due.is("classes that were compiled", files.size(), classes().size());
+        for (Path file : files) {
+            ClassFile compiled = new ClassFile(file);
+            Due.holds(file.getFileName() + " has no lambda and joins no texts by +", !compiled.isDynamic());
+            for (String member : compiled.members()) {
+                Due.holds(file.getFileName() + " may use " + member,
+                    member.startsWith("DeepWearer") || LIBRARY.contains(member));
             }
         }
     }
@@ -128,13 +178,17 @@ public final class FaceTest {
         int opened = -1;
         String indent = "";
         for (int n = 0; n < lines.length; n++) {
-            Matcher head = Pattern.compile("^(\\s+)(?:public|private)[^;=]*\\([^;]*\\)\\s*\\{$").matcher(lines[n]);
-            if (head.find()) {
+            Matcher begins = Pattern.compile("^(\\s+)(?:public|private)[^;=]*\\([^;]*\\)\\s*\\{$").matcher(lines[n]);
+            if (begins.find()) {
                 opened = n;
-                indent = head.group(1);
+                indent = begins.group(1);
             }
             if (opened >= 0 && lines[n].equals(indent + "}")) {
-                Due.holds("sixty lines at most: " + lines[opened].trim(), n - opened < 60);
+                String head = lines[opened].trim();
+                Due.holds("sixty lines at most: " + head, n - opened < 60);
+                boolean makes = String.join("\n", Arrays.copyOfRange(lines, opened, n)).matches("(?s).*\\bnew\\b.*");
+                Due.holds("only a constructor makes anything: " + head,
+                    !makes || head.matches("(public|private) \\w+\\(.*"));
                 opened = -1;
             }
         }

@@ -43,8 +43,16 @@ public final class ModelTest {
         switch (chance.nextInt(25)) {
             case 0: return -1;
             case 1: return last + 1;
-            case 2: return chance.nextInt();
+            case 2: return far();
             default: return chance.nextInt(last + 1);
+        }
+    }
+
+    private int far() {
+        switch (chance.nextInt(4)) {
+            case 0: return Integer.MIN_VALUE;
+            case 1: return Integer.MAX_VALUE;
+            default: return chance.nextInt();
         }
     }
 
