@@ -30,7 +30,8 @@ public final class BoundsTest {
 
     private final Passages passages = new Passages(DOCUMENT);
     private final Map<String, List<String>> scenes = new LinkedHashMap<>();
-    private final List<Call> probes = Probes.all();
+    private final List<List<Call>> groups = Probes.groups();
+    private final List<Call> probes = new ArrayList<>();
 
     private String place = "";
     private DeepWearer x = new DeepWearer();
@@ -39,6 +40,7 @@ public final class BoundsTest {
     private final List<Call> changes = new ArrayList<>();
 
     private BoundsTest() throws IOException {
+        groups.forEach(probes::addAll);
     }
 
     public static void main(String[] args) throws IOException {
@@ -160,23 +162,31 @@ public final class BoundsTest {
         changes.add(call);
     }
 
-    /** A call behind which all is as ahead of it: two objects, one with it and one without, are told apart by nothing. */
+    /** A call behind which all is as ahead of it. */
     private void asked(Call call, long answer) {
         Due.is(place + call, call.on(x), answer);
         calls++;
+        Due.holds(place + "the probes are within 512 calls", changes.size() + 1 + probes.size() <= CALLS_MOST);
+        changesNothing(call, probes);
+        for (List<Call> group : groups) {
+            changesNothing(call, group);
+        }
+    }
+
+    /** Two objects, one with the call and one without, are told apart by nothing. */
+    private void changesNothing(Call call, List<Call> asking) {
         DeepWearer with = replayed();
         call.on(with);
         DeepWearer without = replayed();
         boolean alike = true;
-        for (int n = 0; n < probes.size() && alike; n++) {
-            Call probe = probes.get(n);
+        for (int n = 0; n < asking.size() && alike; n++) {
+            Call probe = asking.get(n);
             long due = probe.on(without);
             long got = probe.on(with);
             alike = got == due;
             Due.holds(place + call + " changes nothing: then " + probe + " (probe " + n + ") answered "
                 + got + ", due is " + due, alike);
         }
-        Due.holds(place + "the probes are within 512 calls", changes.size() + 1 + probes.size() <= CALLS_MOST);
     }
 
     private DeepWearer replayed() {

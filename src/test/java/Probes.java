@@ -9,27 +9,27 @@ final class Probes {
     private Probes() {
     }
 
-    static List<Call> all() {
-        List<Call> all = new ArrayList<>();
-        counts(all);
-        wearersAndThings(all);
-        toldByHand(all);
-        tapes(all);
+    /**
+     * In groups, each of which shows something else. A call that changes what a later group would show hides
+     * that there, if it is a probe itself: so each group is to be asked alone, too.
+     */
+    static List<List<Call>> groups() {
+        List<List<Call>> groups = new ArrayList<>();
+        for (int n = 0; n < 8; n++) {
+            groups.add(new ArrayList<>());
+        }
+        counts(groups.get(0));
+        wearersAndThings(groups.get(1));
+        toldByHand(groups.get(2));
+        tapes(groups.get(3));
         for (int i = 0; i <= 12; i++) {
-            all.add(new Call("trace(" + i + ")"));
+            groups.get(4).add(new Call("trace(" + i + ")"));
         }
-        all.add(new Call("town()"));
-        all.add(new Call("told(1)"));
-        rows(all);
-        // Now what THE IMAGE holds, if one was taken.
-        all.add(new Call("undo()"));
-        for (int what = 0; what <= 5; what++) {
-            all.add(new Call("count(" + what + ")"));
-            all.add(new Call("told(" + what + ")"));
-        }
-        imaged(all);
-        rows(all);
-        return all;
+        groups.get(5).add(new Call("town()"));
+        groups.get(5).add(new Call("told(1)"));
+        rows(groups.get(6));
+        imaged(groups.get(7));
+        return groups;
     }
 
     private static void counts(List<Call> all) {
@@ -85,6 +85,11 @@ final class Probes {
     }
 
     private static void imaged(List<Call> all) {
+        all.add(new Call("undo()"));
+        for (int what = 0; what <= 5; what++) {
+            all.add(new Call("count(" + what + ")"));
+            all.add(new Call("told(" + what + ")"));
+        }
         for (int w = 0; w <= 4; w++) {
             for (int what : new int[] {0, 1, 2, 3, 11}) {
                 all.add(new Call("of(" + w + ", " + what + ")"));
@@ -97,5 +102,6 @@ final class Probes {
         }
         all.add(new Call("ends(0)"));
         all.add(new Call("looked()"));
+        rows(all);
     }
 }
