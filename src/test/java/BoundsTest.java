@@ -47,7 +47,10 @@ public final class BoundsTest {
         BoundsTest test = new BoundsTest();
         test.readScenes(TABLES.resolve("scenes.txt"));
         for (Path table : tables()) {
-            test.play(table);
+            test.play(table.getFileName().toString(), linesOf(table));
+        }
+        for (String table : Passages.blocks(ReadmeTest.README, "table")) {
+            test.play("a table of " + ReadmeTest.README, linesOf(List.of(table.split("\n"))));
         }
         test.passages.left().forEach((part, words) ->
             Due.holds("no words of part " + part + " are left without a table: " + words, words.isEmpty()));
@@ -61,8 +64,12 @@ public final class BoundsTest {
     }
 
     private static List<String> linesOf(Path file) throws IOException {
+        return linesOf(Files.readAllLines(file));
+    }
+
+    private static List<String> linesOf(List<String> written) {
         List<String> lines = new ArrayList<>();
-        for (String line : Files.readAllLines(file)) {
+        for (String line : written) {
             lines.add(line.replaceAll("(^|\\s+)#.*", "").trim());
         }
         return lines;
@@ -81,11 +88,11 @@ public final class BoundsTest {
         }
     }
 
-    private void play(Path table) throws IOException {
+    private void play(String table, List<String> lines) {
         int n = 0;
-        for (String line : linesOf(table)) {
+        for (String line : lines) {
             n++;
-            place = table.getFileName() + ":" + n + ": ";
+            place = table + ":" + n + ": ";
             if (!line.isEmpty()) {
                 playLine(line);
             }

@@ -16,6 +16,7 @@ import java.util.stream.Stream;
 
 /** The public face as the document gives it, and what can be looked at of LANGUAGE.md's rules. */
 public final class FaceTest {
+    private static final Path DOCUMENT = Path.of("../shared/DOC.md");
     private static final String[] FACE = {
         "int wearer(int,int,int)", "int thing(int,int)", "int of(int,int)", "int at(int,int)",
         "int think(int,int)", "int leave(int,boolean)", "int fetch(int)", "int drop(int,int)",
@@ -44,7 +45,10 @@ public final class FaceTest {
         classesInside();
         fields();
         library();
-        source(Files.readString(Path.of("src/main/java/DeepWearer.java")));
+        String source = Files.readString(Path.of("src/main/java/DeepWearer.java"));
+        source(source);
+        faceOfTheDocument(source);
+        headings(source);
         Due.end();
     }
 
@@ -171,6 +175,35 @@ public final class FaceTest {
             Due.holds("import " + imports.group(1), imports.group(1).matches("java\\.util\\.(Arrays|ArrayList|List|Iterator)"));
         }
         methodsAreShort(code);
+    }
+
+    /** Every line of the document's face stands in the class, with the names of what the calls take. */
+    private static void faceOfTheDocument(String source) throws IOException {
+        int calls = 0;
+        for (String line : Passages.blocks(DOCUMENT, "java").get(0).split("\n")) {
+            String said = line.trim().replace(");", ") {");
+            calls += line.endsWith(");") ? 1 : 0;
+            Due.holds("the class has, as the document: " + said, source.contains(said));
+        }
+        Due.is("calls of the document's face, and the constructor", calls, FACE.length + 1);
+    }
+
+    /** The headings of the interface stand ahead of the calls that the document names, in its order. */
+    private static void headings(String source) throws IOException {
+        List<String> due = new ArrayList<>();
+        Matcher said = Pattern.compile("Ahead of the calls (.*) the interface says: (---- .*)\\.")
+            .matcher(Files.readString(DOCUMENT));
+        while (said.find()) {
+            due.add(said.group(2));
+            due.addAll(List.of(said.group(1).replace("`", "").split(", ")));
+        }
+        List<String> got = new ArrayList<>();
+        Matcher line = Pattern.compile("(?m)^    (?:// (---- .*)|public (?:int|long) (\\w+)\\(.*)$").matcher(source);
+        while (line.find()) {
+            got.add(line.group(1) != null ? line.group(1) : line.group(2));
+        }
+        Due.is("headings and calls that the document names", due.size(), FACE.length + 6);
+        Due.holds("the interface says " + due + ", not " + got, got.equals(due));
     }
 
     private static void methodsAreShort(String code) {

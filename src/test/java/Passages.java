@@ -1,9 +1,13 @@
 import java.io.IOException;
 import java.nio.file.Files;
 import java.nio.file.Path;
+import java.util.ArrayList;
 import java.util.Arrays;
 import java.util.LinkedHashMap;
+import java.util.List;
 import java.util.Map;
+import java.util.regex.Matcher;
+import java.util.regex.Pattern;
 
 /** The document's parts that promise something, and which of their words the tables have looked at. */
 final class Passages {
@@ -31,6 +35,16 @@ final class Passages {
         begins += from.length();
         int ends = to == null ? text.length() : text.indexOf(to, begins);
         return text.substring(begins, ends);
+    }
+
+    /** What of a file stands between ```name and ```, block by block. */
+    static List<String> blocks(Path file, String name) throws IOException {
+        List<String> blocks = new ArrayList<>();
+        Matcher m = Pattern.compile("(?ms)^```" + name + "$\n(.*?)^```$").matcher(Files.readString(file));
+        while (m.find()) {
+            blocks.add(m.group(1));
+        }
+        return blocks;
     }
 
     private void part(String name, String words) {
